@@ -466,14 +466,38 @@ public final class ModelTest {
     }
   }
 
+  /** A run that comes to a root of the level 3, which hardly any run does. */
+  static void deepRun() {
+    Random r = new Random(978);
+    begin("deep run");
+    int style = r.nextInt(4), low = 8 + r.nextInt(14);
+    for (int c = 0; c <= 229; c++) {
+      int n = m.now.count();
+      if (n < 24 && (n < low || r.nextInt(2) == 0)) {
+        int p = r.nextInt(90), q = r.nextInt(90), w = style == 0 ? 0 : r.nextInt(style == 1 ? 10 : style == 2 ? 3 : 90), h = style == 3 ? 0 : r.nextInt(10);
+        both("add", p, q, Math.min(99, p + w), Math.min(99, q + h));
+      } else {
+        both("remove", r.nextInt(24));
+      }
+    }
+    if (m.now.root.level != 3) throw new RuntimeException("the deep run is not deep");
+    both("bestRemoval");
+    both("looks", 0, 0, 99, 99);
+    tellAll(r);
+  }
+
+  static void begin(String name) {
+    x = new ShallowBoxes();
+    m = new Model();
+    told = new StringBuilder(name).append('\n');
+    calls = 0;
+  }
+
   public static void main(String[] args) {
     int runs = args.length > 0 ? Integer.parseInt(args[0]) : 4000;
     for (int run = 0; run < runs; run++) {
       Random random = new Random(run);
-      x = new ShallowBoxes();
-      m = new Model();
-      told = new StringBuilder("run ").append(run).append('\n');
-      calls = 0;
+      begin("run " + run);
       int style = random.nextInt(4), fill = 8 + random.nextInt(11), steps = random.nextInt(180);
       for (int i = 0; i < steps && calls < 280; i++) {
         step(random, random.nextInt(5) == 0 ? random.nextInt(4) : style, random.nextInt(30) == 0 ? fill = 8 + random.nextInt(12) : fill);
@@ -482,6 +506,7 @@ public final class ModelTest {
       tellAll(random);
       if (calls > 512) throw new RuntimeException("a run of " + calls + " calls");
     }
+    deepRun();
     if (args.length > 1) {
       kinds.forEach((k, v) -> System.out.println(k + " " + java.util.Arrays.toString(v)));
       System.out.println("deepest " + deepest);

@@ -253,6 +253,16 @@ public final class PromiseTest {
     ShallowBoxes y = row(7);
     due(1, () -> y.remove(0));
     node(y, 0, 0, NONE, NONE, NONE, NONE, NONE);
+    // Nodes that went away can be had again, however often.
+    ShallowBoxes z = row(0, 20, 40, 60);
+    for (int i = 0; i < 100; i++) {
+      due(4, () -> z.add(80, 0, 89, 9));
+      due(1, () -> z.remove(4));
+    }
+    due(4, () -> z.add(80, 0, 89, 9));
+    due(100, () -> z.about(7));
+    due(101, () -> z.about(6));
+    due(3, () -> z.about(1));
   }
 
   private static void promise12() {
@@ -412,6 +422,11 @@ public final class PromiseTest {
     scripts(x, NONE, 100000000, 190900909, 199990000, 112340505);
     scripts(x, 0, 199990100, 199990001, 150509900);
     scripts(full(), 0, 100000000);
+    // Five squares of all cells, in two nodes, have an overlap of 10000.
+    ShallowBoxes wide = new ShallowBoxes();
+    for (int i = 0; i < 5; i++) wide.add(0, 0, 99, 99);
+    scripts(wide, NONE, 600010000);
+    scripts(wide, 0, 600009999);
     scripts(x, NONE, 200000000, 206000000);
     scripts(x, 0, 203000000, 224000000, 299000000, 200000001, 200100000, 206000100);
     scripts(x, NONE, 300909000, 302005000, 306000000);
