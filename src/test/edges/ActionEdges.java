@@ -1,3 +1,4 @@
+import java.util.List;
 import java.util.function.Supplier;
 
 /** Actions, undo, the save slots, and which exception a refused call throws. */
@@ -238,6 +239,20 @@ final class ActionEdges {
         Sentences.changesNothing(Recipes.EMPTY, call);
       }
     });
+    Sentences.sentence("what would be; these and all following methods up to the save slots change nothing.", () -> {
+      // What is asked before is of no account for what is asked later.
+      Sentences.Ask[] calls = {x -> x.window(10, 0, 40, 9), x -> x.looks(10, 0, 40, 9), x -> x.nearest(30, 0, 1), x -> x.chosen(50, 0, 58, 9), x -> x.chosen(0, 0, 0, 99),
+        x -> x.ifAdded(30, 0, 39, 9), x -> x.ifAdded(70, 0, 79, 50), ShallowBoxes::bestRemoval, ShallowBoxes::anew, x -> x.runScript(2, 200000000600000100L),
+        x -> x.runScript(2, 110000909600000200L), x -> x.runScript(1, 500000003L), x -> x.runScript(2, 301100000500000003L), x -> x.simulate(5, 20), x -> x.simulate(-9, 60)};
+      for (Supplier<ShallowBoxes> before : List.<Supplier<ShallowBoxes>>of(Recipes.FIVE, Recipes::seven, Recipes::full, Recipes.EMPTY, Recipes::twoLevels, () -> Recipes.acted(1, 40))) {
+        for (Sentences.Ask first : calls) {
+          for (Sentences.Ask second : calls) {
+            long alone = second.of(before.get());
+            due(alone, () -> { ShallowBoxes x = before.get(); first.of(x); return second.of(x); });
+          }
+        }
+      }
+    });
   }
 
   // ---- add
@@ -428,6 +443,9 @@ final class ActionEdges {
       x.move(4, 10, 90);
       x.undo();
       Sentences.due(before, told(x));
+      ShallowBoxes full = Recipes.busyFull();
+      full.undo();
+      due(100, full::clearText);
       ShallowBoxes y = Recipes.removed(Recipes.full(), 17);
       y.undo();
       Sentences.due(told(Recipes.full()), told(y));
@@ -480,7 +498,12 @@ final class ActionEdges {
       x.add(7, 7, 7, 7);
       x.restore(0);
       Sentences.due(then, told(x));
+      // Anew into the slot that has the same state: nothing is different.
+      Sentences.changesNothing(Recipes.BUSY_FULL, full -> full.save(1));
       // It is no action, and forgets none.
+      ShallowBoxes most = acted(14);
+      most.save(0);
+      due(13, most::undo);
       ShallowBoxes y = acted(3);
       y.save(0);
       due(2, y::undo);

@@ -21,7 +21,7 @@ final class Looks {
   private static String tree(ShallowBoxes x, int n) {
     StringBuilder seen = new StringBuilder("[");
     int level = x.node(n, 0);
-    for (int k = 0; x.entry(n, k) >= 0; k++) {
+    for (int k = 0; k <= 5 && x.entry(n, k) >= 0; k++) {
       if (k > 0) seen.append(' ');
       int e = x.entry(n, k);
       seen.append(level > 0 ? tree(x, e) : "" + e);
@@ -75,7 +75,7 @@ final class Looks {
 
   private static void text(ShallowBoxes x, StringBuilder seen) {
     seen.append(" error ").append(x.errorPosition());
-    while (x.about(0) > 10) x.remove(Integer.numberOfTrailingZeros(x.window(0, 0, 99, 99)));
+    for (int n = 0; n < 14 && x.about(0) > 10; n++) x.remove(Integer.numberOfTrailingZeros(x.window(0, 0, 99, 99)));
     try {
       seen.append(" all ").append(x.addAll());
       numbers(x, seen);

@@ -52,9 +52,6 @@ final class QuestionEdges {
     for (int w = 0; w <= 6; w++) { int what = w; due(all[what], () -> x.node(n, what)); }
   }
 
-  /** The root over [[1 8] [9 10 6] [7 0]], 60 to 89, and [[4 3] [2 5]], 10 to 59. */
-  private static ShallowBoxes twoLevels() { return Recipes.row(60, 70, 40, 30, 10, 50, 60, 80, 70, 60, 60); }
-
   // ---- what there is
 
   private static void created() {
@@ -84,7 +81,7 @@ final class QuestionEdges {
       abouts(Recipes.of(0, 0, 99, 99, 0, 0, 99, 99, 0, 0, 99, 99, 0, 0, 99, 99, 0, 0, 99, 99), 5, 3, 1, 10000, 20000, 0, 1, 0);
       abouts(Recipes.five(), 5, 3, 1, 200, 1100, 1, 3, 2);
       // The boxes 60 to 89 and 10 to 59, then 70 to 79, 60 to 69 and 60 to 89, then 10 to 39 and 40 to 59.
-      abouts(twoLevels(), 11, 8, 2, 200, 300 + 500 + 100 + 100 + 300 + 300 + 200, 3, 5, 0);
+      abouts(Recipes.twoLevels(), 11, 8, 2, 200, 300 + 500 + 100 + 100 + 300 + 300 + 200, 3, 5, 0);
       due(24, () -> Recipes.full().about(0));
       abouts(Recipes.removed(Recipes.row(5), 0), 0, 1, 0, 0, 0, 0, 0, 0);
     });
@@ -125,7 +122,7 @@ final class QuestionEdges {
         due(second[what], () -> x.rectangle(1, what));
       }
       int[] in = {4, 2, 7, 6, 6, 7, 3, 4, 2, 3, 3};
-      for (int i = 0; i <= 10; i++) { int n = i; due(in[n], () -> twoLevels().rectangle(n, 4)); }
+      for (int i = 0; i <= 10; i++) { int n = i; due(in[n], () -> Recipes.twoLevels().rectangle(n, 4)); }
       for (int what : new int[] {-1, 5, LEAST, MOST}) refused(ARGUMENT, Recipes.BUSY, y -> y.rectangle(0, what));
     });
     Sentences.sentence("Returns that number.", () -> due(99, () -> Recipes.of(0, 0, 99, 99).rectangle(0, 3)));
@@ -144,7 +141,7 @@ final class QuestionEdges {
 
   private static void node() {
     Sentences.sentence("Nodes are numbered from 0: the root is 0; behind a node come all nodes below its first entry, this one first, then those below its second entry, and so on.", () -> {
-      ShallowBoxes x = twoLevels();
+      ShallowBoxes x = Recipes.twoLevels();
       int[] levels = {2, 1, 0, 0, 0, 1, 0, 0}, above = {NONE, 0, 1, 1, 1, 0, 5, 5}, first = {1, 2, 1, 9, 7, 6, 4, 2};
       for (int i = 0; i <= 7; i++) {
         int n = i;
@@ -174,7 +171,7 @@ final class QuestionEdges {
       nodes(Recipes.row(1, 2, 3, 4), 0, 0, 4, 1, 0, 13, 9, NONE);
       for (int what : new int[] {-1, 7, LEAST, MOST}) refused(ARGUMENT, Recipes.BUSY, y -> y.node(2, what));
     });
-    Sentences.sentence("Returns that number.", () -> due(2, () -> twoLevels().node(0, 0)));
+    Sentences.sentence("Returns that number.", () -> due(2, () -> Recipes.twoLevels().node(0, 0)));
     Sentences.sentence("Returns a number of a node.", () -> due(4, () -> Recipes.row(1, 2, 3, 4).node(0, 1)));
     Sentences.sentence("Throws `IndexOutOfBoundsException` if there is no such node", () -> {
       for (int n : new int[] {-1, 3, 24, LEAST, MOST}) {
@@ -199,7 +196,7 @@ final class QuestionEdges {
       refused(ARGUMENT, Recipes.BUSY, y -> y.entry(0, -1));
     });
     Sentences.sentence("Returns the number of the rectangle, at the level 0, otherwise of the node; NONE if there are not so many.", () -> {
-      ShallowBoxes x = twoLevels();
+      ShallowBoxes x = Recipes.twoLevels();
       int[][] all = {{1, 5}, {2, 3, 4}, {1, 8}, {9, 10, 6}, {7, 0}, {6, 7}, {4, 3}, {2, 5}};
       for (int i = 0; i < all.length; i++) {
         int n = i;
@@ -281,6 +278,8 @@ final class QuestionEdges {
     });
   }
 
+  private static final int[] TWO_LEVELS = Recipes.corners(60, 70, 40, 30, 10, 50, 60, 80, 70, 60, 60);
+
   private static void looks() {
     corners(ShallowBoxes::looks);
     Sentences.sentence("Returns how many nodes are looked at: the root, and each node whose box the window meets, if the node whose entry it is is looked at.", () -> {
@@ -288,10 +287,19 @@ final class QuestionEdges {
       due(1, () -> new ShallowBoxes().looks(0, 0, 99, 99));
       due(1, () -> Recipes.row(5).looks(50, 50, 50, 50));
       due(1, () -> Recipes.five().looks(0, 50, 99, 99));
-      ShallowBoxes x = twoLevels();
+      ShallowBoxes x = Recipes.twoLevels();
       int[][] columns = {{0, 9, 1}, {10, 10, 3}, {39, 39, 3}, {40, 40, 3}, {39, 40, 4}, {59, 59, 3}, {60, 60, 4}, {59, 60, 6}, {70, 79, 4}, {69, 70, 5}, {80, 89, 3}, {90, 99, 1}, {0, 99, 8}};
       for (int[] c : columns) due(c[2], () -> x.looks(c[0], 9, c[1], 99));
       for (int[] c : columns) due(1, () -> x.looks(c[0], 10, c[1], 99));
+      // The same, turned and mirrored.
+      for (int way = 0; way < 8; way++) {
+        ShallowBoxes turned = Recipes.of(Recipes.turned(way, TWO_LEVELS));
+        for (int[] c : columns) {
+          int[] w = Recipes.turned(way, c[0], 9, c[1], 60), beside = Recipes.turned(way, c[0], 10, c[1], 60);
+          due(c[2], () -> turned.looks(w[0], w[1], w[2], w[3]));
+          due(1, () -> turned.looks(beside[0], beside[1], beside[2], beside[3]));
+        }
+      }
       // A box is met where no rectangle is.
       due(2, () -> Recipes.row(0, 20, 40, 60, 80).looks(10, 0, 19, 9));
       due(1, () -> Recipes.row(0, 20, 40, 60, 80).looks(50, 0, 59, 9));
@@ -391,12 +399,19 @@ final class QuestionEdges {
       x.add(50, 0, 58, 9);
       due(2, () -> x.rectangle(6, 4));
       due(1, () -> x.about(5));
+      for (int way = 0; way < 8; way++) {
+        ShallowBoxes turned = Recipes.of(Recipes.turned(way, TWO_LEVELS));
+        for (int[] c : new int[][] {{75, 75, 2}, {65, 65, 3}, {85, 85, 4}, {0, 0, 6}, {59, 59, 7}, {33, 35, 6}, {76, 81, 4}}) {
+          int[] w = Recipes.turned(way, c[0], 0, c[1], 3);
+          due(c[2], () -> turned.chosen(w[0], w[1], w[2], w[3]));
+        }
+      }
       // Of the level 0, also below a root of the level 2; and with 24 rectangles.
-      due(2, () -> twoLevels().chosen(75, 0, 75, 0));
-      due(3, () -> twoLevels().chosen(65, 0, 65, 0));
-      due(4, () -> twoLevels().chosen(85, 0, 85, 0));
-      due(6, () -> twoLevels().chosen(0, 0, 0, 0));
-      due(7, () -> twoLevels().chosen(59, 0, 59, 0));
+      due(2, () -> Recipes.twoLevels().chosen(75, 0, 75, 0));
+      due(3, () -> Recipes.twoLevels().chosen(65, 0, 65, 0));
+      due(4, () -> Recipes.twoLevels().chosen(85, 0, 85, 0));
+      due(6, () -> Recipes.twoLevels().chosen(0, 0, 0, 0));
+      due(7, () -> Recipes.twoLevels().chosen(59, 0, 59, 0));
       ShallowBoxes y = Recipes.full();
       for (int i = 0; i < 24; i++) {
         int c = 4 * i, n = y.chosen(c, c, c, c);
@@ -419,6 +434,13 @@ final class QuestionEdges {
         more(Recipes.FIVE, a, 0, a + 9, 40);
         more(Recipes.EMPTY, a, 0, a + 9, 40);
         more(() -> Recipes.removed(Recipes.full(), 6), a, 90 - a, 99, 99);
+      }
+      for (int way = 0; way < 8; way++) {
+        int[] turned = Recipes.turned(way, TWO_LEVELS);
+        for (int a = 0; a <= 90; a += 15) {
+          int[] b = Recipes.turned(way, a, 1, a + 9, 30);
+          more(() -> Recipes.of(turned), b[0], b[1], b[2], b[3]);
+        }
       }
       // Less than now: 3 is thrown out of [1 0 3 5], so that 20 to 69 gets 0 to 59.
       ShallowBoxes x = sixOver();
@@ -463,11 +485,14 @@ final class QuestionEdges {
       best(Recipes.FIVE);
       best(Recipes::full);
       best(Recipes::seven);
-      best(QuestionEdges::twoLevels);
+      best(Recipes::twoLevels);
       best(QuestionEdges::crowded);
       best(() -> Recipes.removed(crowded(), 4, 9, 0));
       best(QuestionEdges::sixOver);
       best(() -> Recipes.row(70, 50, 90, 70, 50, 0, 30, 30));
+      // Each removal is a call of its own, which may throw out.
+      due(6, () -> Recipes.row(30, 80, 10, 50, 70, 30, 30, 30).bestRemoval());
+      for (int way = 0; way < 4; way++) for (int many = 10; many <= 60; many += 5) { int w = way, n = many; best(() -> Recipes.acted(w, n)); }
     });
   }
 
@@ -507,7 +532,7 @@ final class QuestionEdges {
       due(400, () -> { ShallowBoxes x = Recipes.typed("70,0:10x10;50,0:10x10;90,0:10x10;70,0:10x10;50,0:10x10;0,0:10x10;30,0:10x10;30,0:10x10"); x.addAll(); return x.about(3); });
       again(Recipes.FIVE);
       again(Recipes::full);
-      again(QuestionEdges::twoLevels);
+      again(Recipes::twoLevels);
       again(QuestionEdges::crowded);
       again(() -> Recipes.removed(crowded(), 3, 4, 5, 17));
       // By their numbers: the one that was added last has the number 0.
@@ -591,6 +616,8 @@ final class QuestionEdges {
         same(Recipes.EMPTY, seed * 1000003 - 17, 60);
         same(Recipes.FIVE, seed * 1000003 - 17, 25);
       }
+      // Seeds that tell 1048576 from 1048575 and 1048577.
+      for (long seed : new long[] {360, 489, 552, 624, 858, 1380}) same(Recipes.EMPTY, seed, 60);
     });
     Sentences.sentence("Returns 1000 * (the nodes at the end) + (the rectangles at the end).", () -> {
       due(1001, () -> new ShallowBoxes().simulate(0, 1));

@@ -37,6 +37,29 @@ final class Recipes {
     return all;
   }
 
+  /** The first so many of a hundred actions, among them enough removals that nodes and roots go and come. */
+  static ShallowBoxes acted(int way, int many) {
+    ShallowBoxes x = new ShallowBoxes();
+    int r = 12345 + way;
+    for (int n = 0; n < many; n++) {
+      r = (r * 1103 + 12347) & 0xffffff;
+      int there = x.window(0, 0, 99, 99), i = r / 7 % 24, rise = n / 25 % 2;
+      boolean has = (there >> i & 1) == 1;
+      if (has && (r / 3 % 4 < 1 + 2 * rise || there == 0xffffff)) {
+        x.remove(i);
+      } else if (has && r % 5 == 0) {
+        x.move(i, r / 11 % 60 - x.rectangle(i, 0), r / 13 % 60 - x.rectangle(i, 1));
+      } else if (there != 0xffffff) {
+        int x1 = r / 17 % 80, y1 = way % 2 == 0 ? 0 : r / 19 % 80;
+        x.add(x1, y1, x1 + r / 23 % 20, y1 + r / 29 % 20);
+      }
+    }
+    return x;
+  }
+
+  /** The root over [[1 8] [9 10 6] [7 0]], 60 to 89, and [[4 3] [2 5]], 10 to 59. */
+  static ShallowBoxes twoLevels() { return row(60, 70, 40, 30, 10, 50, 60, 80, 70, 60, 60); }
+
   static ShallowBoxes type(ShallowBoxes x, String text) {
     for (char c : text.toCharArray()) x.append(c);
     return x;

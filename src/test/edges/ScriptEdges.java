@@ -1,3 +1,4 @@
+import java.util.List;
 import java.util.function.Supplier;
 
 /** Scripts: each command by itself, at its edges, and two of them one after the other. */
@@ -15,6 +16,7 @@ final class ScriptEdges {
     moving();
     asking();
     meeting();
+    leaving();
     failing();
     zeros();
     arguments();
@@ -158,9 +160,46 @@ final class ScriptEdges {
       Supplier<ShallowBoxes> wide = () -> Recipes.of(0, 0, 99, 99, 0, 0, 99, 99, 0, 0, 99, 99, 0, 0, 99, 99, 0, 0, 99, 99);
       succeed(wide, 600010000L, 600010001L, 600020000L);
       fail(wide, 600009999L, 600001000L);
+      fail(wide, 600100000L, 610010000L, 601010000L);
+      // Three nodes with all cells are 30000.
+      Supplier<ShallowBoxes> three = () -> Recipes.of(0, 0, 99, 99, 0, 0, 99, 99, 0, 0, 99, 99, 0, 0, 99, 99, 0, 0, 99, 99, 0, 0, 99, 99, 0, 0, 99, 99);
+      succeed(three, 600030000L, 600030001L);
+      fail(three, 600029999L, 600020000L, 600003000L);
       // More overlap than five digits can say.
       Sentences.due(1, () -> all24().about(3) > 99999 ? 1 : 0);
       fail(ScriptEdges::all24, 600099999L);
+    });
+  }
+
+  /** Behind a first command there are as many nodes, and as much overlap, as behind the call itself. */
+  private static void leaves(Supplier<ShallowBoxes> before, long command, Sentences.Ask call) {
+    ShallowBoxes x = before.get();
+    call.of(x);
+    long nodes = x.about(1), overlap = x.about(3);
+    two(NONE, before, command, 500000000L + nodes);
+    two(1, before, command, 500000000L + nodes - 1);
+    two(NONE, before, command, 600000000L + overlap);
+    if (overlap > 0) two(1, before, command, 600000000L + overlap - 1);
+    // And so they are behind other questions, some of which throw out.
+    Sentences.due(NONE, () -> { ShallowBoxes y = before.get(); y.bestRemoval(); y.ifAdded(30, 0, 39, 9); y.simulate(3, 5); return y.runScript(2, command * 1000000000L + 600000000L + overlap); });
+    if (overlap > 0) Sentences.due(1, () -> { ShallowBoxes y = before.get(); y.anew(); y.ifAdded(10, 0, 19, 9); return y.runScript(2, command * 1000000000L + 599999999L + overlap); });
+  }
+
+  private static void leaving() {
+    Sentences.sentence("The commands 1 to 4", () -> {
+      List<Supplier<ShallowBoxes>> all = List.of(Recipes.FIVE, Recipes::seven, Recipes::twoLevels, () -> Recipes.row(50, 20, 90, 60, 30, 50), () -> Recipes.row(40, 20, 90, 0, 80, 30, 10, 40),
+        () -> Recipes.row(60, 0, 10, 20, 80, 10, 10), () -> Recipes.row(30, 40, 30, 60, 40, 70, 0, 60, 30), () -> Recipes.row(30, 80, 10, 50, 70, 30, 30, 30), () -> Recipes.acted(1, 40));
+      for (Supplier<ShallowBoxes> before : all) {
+        int there = before.get().window(0, 0, 99, 99);
+        for (int a = 0; a <= 90; a += 10) { int at = a; leaves(before, 100000909L + at * 1000000L, x -> x.add(at, 0, at + 9, 9)); }
+        for (int n = 0; n < 24; n++) {
+          if ((there >> n & 1) == 0) continue;
+          int i = n, x1 = before.get().rectangle(i, 0), y2 = before.get().rectangle(i, 3);
+          leaves(before, 200000000L + i * 1000000L, x -> x.remove(i));
+          leaves(before, 400000000L + i * 1000000L + x1 / 2 * 10000L, x -> x.move(i, -(x1 / 2), 0));
+          leaves(before, 300000000L + i * 1000000L + (99 - y2) * 100L, x -> x.move(i, 0, 99 - y2));
+        }
+      }
     });
   }
 

@@ -210,8 +210,12 @@ final class TextEdges {
       x.clearText();
       Sentences.due(0, x::errorPosition);
       // There is room for 100 characters again, and nothing of the old ones is left.
-      for (int i = 1; i <= 7; i++) { int many = i; Sentences.due(many, () -> x.append("5,5:9x9".charAt(many - 1))); }
-      Sentences.due(Sentences.NONE, x::errorPosition);
+      String text = "5,5:9x9";
+      for (int i = 1; i <= text.length(); i++) {
+        int many = i;
+        Sentences.due(many, () -> x.append(text.charAt(many - 1)));
+        Sentences.due(many < text.length() ? many : Sentences.NONE, x::errorPosition);
+      }
       for (int i = 8; i <= 100; i++) { int many = i; Sentences.due(many, () -> x.append(' ')); }
       Sentences.due(7, x::errorPosition);
       // The state and the save slots are as they were.

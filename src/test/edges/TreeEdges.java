@@ -135,6 +135,14 @@ final class TreeEdges {
       x.remove(4);
       // With 4 its node went, and 6 was put in again.
       box(x, 0, 0, 0, 49, 9);
+      // A box that becomes larger or smaller changes all boxes above it.
+      ShallowBoxes y = twoLevels();
+      y.add(99, 99, 99, 99);
+      box(y, 0, 10, 0, 99, 99);
+      box(y, 1, 60, 0, 99, 99);
+      y.remove(11);
+      box(y, 0, 10, 0, 89, 9);
+      box(y, 1, 60, 0, 89, 9);
     });
   }
 
@@ -146,6 +154,9 @@ final class TreeEdges {
       Sentences.due(0, () -> x.node(0, 1));
       Sentences.due(Sentences.NONE, () -> x.node(0, 6));
       Sentences.due(Sentences.NONE, () -> x.entry(0, 0));
+      // Also behind roots that came and went, whose place another node has taken.
+      ShallowBoxes z = Recipes.removed(Recipes.row(0, 30, 90, 80, 40, 40, 0, 90, 70, 50, 70, 30, 70, 50, 40), 6, 9, 8);
+      Sentences.due(Sentences.NONE, () -> z.node(0, 6));
       ShallowBoxes y = Recipes.full();
       for (int n = 0; n < y.about(1); n++) { int node = n; Sentences.due(node == 0 ? 1 : 0, () -> y.node(node, 6) == Sentences.NONE ? 1 : 0); }
     });
@@ -172,6 +183,13 @@ final class TreeEdges {
       x.remove(3);
       Sentences.due("[0 1 2 4]", Looks.tree(x));
       Sentences.due(0, () -> x.about(2));
+    });
+    Sentences.sentence("It may have 0 to 4 entries, but at least 2 if its level is not 0; all other nodes have 2 to 4.", () -> {
+      for (int way = 0; way < 12; way++) {
+        for (int many = 0; many <= 100; many++) Sentences.due("", Sound.faults(Recipes.acted(way, many)));
+      }
+      Sentences.due("", Sound.faults(Recipes.full()));
+      Sentences.due("", Sound.faults(new ShallowBoxes()));
     });
     Sentences.sentence("all other nodes have 2 to 4.", () -> {
       ShallowBoxes x = Recipes.row(0, 20, 40, 60, 80, 10);
@@ -200,6 +218,18 @@ final class TreeEdges {
       for (int a : new int[] {0, 30, 49, 50, 53, 54}) tree("[[0 1 2 5] [4 3]]", squaresAnd(a, a));
       for (int a : new int[] {55, 56, 59, 60, 89, 99}) tree("[[0 1 2] [4 3 5]]", squaresAnd(a, a));
     });
+    Sentences.sentence("has to be enlarged least (by the area of its join with the box of what is put in, less its own area),", () -> {
+      // One cell more or less: a row of cells, so that the first box is enlarged by 6 or 7 and the second one by 7 or 6.
+      tree("[[0 1 2 5] [4 3]]", low(squaresAnd(53, 55)));
+      tree("[[0 1 2] [4 3 5]]", low(squaresAnd(54, 56)));
+      // The second box has more area, but is enlarged by one cell less.
+      int[] column = low(Recipes.corners(0, 10, 60, 50, 80, 35));
+      column[22] = 35;
+      tree("[[0 1] [4 2 3 5]]", column);
+      column[20] = 34;
+      column[22] = 34;
+      tree("[[0 1 5] [4 2 3]]", column);
+    });
     Sentences.sentence("of several the one with the least area,", () -> {
       // Both are enlarged by 60 cells: the first one has 500, the second one 300.
       tree("[[0 1 2] [4 3 5]]", squaresAnd(54, 55));
@@ -226,6 +256,13 @@ final class TreeEdges {
     });
   }
 
+  /** The same with only the uppermost row of each. */
+  private static int[] low(int[] corners) {
+    int[] all = corners.clone();
+    for (int i = 0; i < all.length; i += 4) all[i + 3] = all[i + 1];
+    return all;
+  }
+
   /** Five squares in the nodes [0 1 2], 0 to 49, and [4 3], 60 to 89, and a rectangle of the columns from x1 to x2. */
   private static int[] squaresAnd(int x1, int x2) {
     int[] all = Recipes.corners(0, 20, 40, 60, 80, x1);
@@ -249,10 +286,22 @@ final class TreeEdges {
       about(Recipes.row(7, 7, 7, 7, 7), 0, 1, 0);
       // 2, the far end of [0 1 2 5 6], goes to the other node.
       about(Recipes.of(THROWN), 1, 1, 0);
-      // Each call may throw out anew.
+      // Each call may throw out anew: an add, a remove and a move, each behind an add that threw out.
       ShallowBoxes x = Recipes.of(THROWN);
       x.add(10, 0, 19, 9);
       about(x, 2, 2, 0);
+      ShallowBoxes y = Recipes.row(30, 40, 30, 60, 40, 70, 0, 60, 30);
+      Sentences.due("[[0 2 6 8] [4 1] [5 3 7]]", Looks.tree(y));
+      about(y, 1, 2, 0);
+      y.remove(1);
+      Sentences.due("[[4 0 2] [6 8] [5 3 7]]", Looks.tree(y));
+      about(y, 2, 3, 1);
+      ShallowBoxes z = Recipes.row(60, 0, 10, 20, 80, 10, 10);
+      Sentences.due("[[3 2 5] [1 6] [4 0]]", Looks.tree(z));
+      about(z, 1, 2, 0);
+      z.move(0, -40, 0);
+      Sentences.due("[[3 5 4 0] [1 6 2]]", Looks.tree(z));
+      about(z, 2, 2, 1);
     });
     Sentences.sentence("and this one is put in again, at the same level, from the root on.", () -> {
       tree("[[0 1 5 6] [4 3 2]]", THROWN);
@@ -299,6 +348,12 @@ final class TreeEdges {
       tree("[[0 1 5] [2 6] [3 4]]", 0, 0, 9, 9, 20, 0, 29, 9, 42, 0, 50, 9, 41, 90, 50, 99, 0, 90, 10, 99, 20, 0, 29, 9, 20, 0, 29, 9);
       // With 41 to 50 it lies 20.5 from it as well, and 0 is the first one.
       tree("[[2 6] [0 1 5] [3 4]]", 0, 0, 9, 9, 20, 0, 29, 9, 41, 0, 50, 9, 41, 90, 50, 99, 0, 90, 10, 99, 20, 0, 29, 9, 20, 0, 29, 9);
+    });
+    Sentences.sentence("the one whose middle is farthest from the middle of the node's box", () -> {
+      // From 24.5, 24.5 it is 24.5 to the middle of 2, and 4 and 24 to that of 5, which is less, though 28 is more.
+      tree("[[0 1 5 6] [4 3 2]]", 0, 20, 9, 29, 20, 20, 29, 29, 49, 24, 49, 25, 60, 20, 69, 29, 80, 20, 89, 29, 20, 0, 21, 1, 24, 40, 25, 49);
+      // It is 15 and 0 to the middle of 0, and 15 and 10 to that of 2, which is more, though the greater ones are as large.
+      tree("[[0 1 5 6] [4 3 2]]", 20, 20, 29, 29, 30, 30, 39, 39, 50, 30, 59, 39, 50, 10, 59, 19, 70, 40, 79, 49, 40, 30, 49, 39, 30, 10, 39, 19);
     });
     Sentences.sentence("of several the first one; and this one is put in again", () -> {
       // 0 and 2 lie 20 from the middle of 0 to 49.
@@ -435,7 +490,7 @@ final class TreeEdges {
   }
 
   private static ShallowBoxes twoLevels() {
-    ShallowBoxes x = Recipes.row(60, 70, 40, 30, 10, 50, 60, 80, 70, 60, 60);
+    ShallowBoxes x = Recipes.twoLevels();
     Sentences.due("[[[1 8] [9 10 6] [7 0]] [[4 3] [2 5]]]", Looks.tree(x));
     return x;
   }
@@ -447,6 +502,14 @@ final class TreeEdges {
       Sentences.due("[0 1 2 3]", Looks.tree(x));
       Sentences.due(Sentences.NONE, () -> x.node(0, 6));
       about(x, 0, 1, 1);
+      // However often: what went can be had again.
+      for (int i = 0; i < 60; i++) {
+        x.add(80, 0, 89, 9);
+        Sentences.due(3, () -> x.about(1));
+        x.remove(4);
+        Sentences.due(1, () -> x.about(1));
+      }
+      Sentences.due("[0 1 2 3]", Looks.tree(x));
       // A root of the level 0 keeps its only entry.
       ShallowBoxes y = Recipes.removed(Recipes.row(0, 50), 1);
       Sentences.due("[0]", Looks.tree(y));
