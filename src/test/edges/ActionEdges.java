@@ -9,6 +9,8 @@ final class ActionEdges {
   private static final int LEAST = Integer.MIN_VALUE, MOST = Integer.MAX_VALUE;
 
   static void all() {
+    Sentences.section("What it is");
+    calls();
     Sentences.section("ACTIONS AND UNDO");
     actions();
     remembering();
@@ -54,6 +56,34 @@ final class ActionEdges {
     ShallowBoxes x = new ShallowBoxes();
     for (int i = 0; i < many; i++) x.add(i, i, i + 3, i + 2);
     return x;
+  }
+
+  // ---- the 512 calls
+
+  private static void calls() {
+    Sentences.sentence("Rectangles in a shallow tree: nodes with few entries and the box around them,", () -> {
+      Sentences.due("", Sound.faults(Recipes.full()));
+    });
+    Sentences.sentence("An object is used for at most 512 calls after it has been made;", () -> {
+      // The 512th call answers as the first one would; nothing is used up by those before it.
+      ShallowBoxes x = Recipes.row(0, 20, 40, 60);
+      for (int i = 0; i < 252; i++) {
+        due(4, () -> x.add(80, 0, 89, 9));
+        due(1, () -> x.remove(4));
+      }
+      due(252, () -> x.about(7));
+      due(1, () -> x.append('5'));
+      due(1, () -> x.remove(3));
+      due(3, () -> x.about(0));
+      // Actions alone: each is remembered, and the last ones are taken back.
+      ShallowBoxes y = Recipes.of(0, 0, 0, 0);
+      for (int i = 0; i < 510; i++) { int to = i % 2 == 0 ? 99 : -99; due(0, () -> y.move(0, to, 0)); }
+      due(13, y::undo);
+      // Questions alone.
+      ShallowBoxes z = new ShallowBoxes();
+      for (int i = 0; i < 511; i++) due(Sentences.NONE, z::bestRemoval);
+      due(0, z::anew);
+    });
   }
 
   // ---- actions and undo
