@@ -3,9 +3,12 @@ import java.lang.reflect.Method;
 import java.lang.reflect.Modifier;
 import java.nio.file.Files;
 import java.nio.file.Path;
+import java.util.ArrayList;
 import java.util.Arrays;
 import java.util.List;
+import java.util.Map;
 import java.util.Set;
+import java.util.TreeMap;
 import java.util.TreeSet;
 import java.util.regex.Matcher;
 import java.util.regex.Pattern;
@@ -18,10 +21,18 @@ public final class LanguageTest {
     if (!kept) { wrong++; System.out.println("rule " + number + ": " + what); }
   }
 
-  private static final List<String> FACE = Arrays.asList("append(int)", "clearText()", "errorPosition()", "about(int)", "rectangle(int,int)", "node(int,int)",
-    "entry(int,int)", "add(int,int,int,int)", "addAll()", "remove(int)", "move(int,int,int)", "undo()", "window(int,int,int,int)", "looks(int,int,int,int)",
-    "nearest(int,int,int)", "chosen(int,int,int,int)", "ifAdded(int,int,int,int)", "bestRemoval()", "anew()", "runScript(int,long)", "simulate(long,int)",
-    "save(int)", "restore(int)");
+  // A call, and behind it A, S and X for the exceptions that it may throw: argument, state, index.
+  private static final List<String> FACE = Arrays.asList("append(int) AS", "clearText() ", "errorPosition() ", "about(int) A", "rectangle(int,int) XA",
+    "node(int,int) XA", "entry(int,int) XA", "add(int,int,int,int) AS", "addAll() S", "remove(int) X", "move(int,int,int) XAS", "undo() S",
+    "window(int,int,int,int) A", "looks(int,int,int,int) A", "nearest(int,int,int) A", "chosen(int,int,int,int) A", "ifAdded(int,int,int,int) A",
+    "bestRemoval() ", "anew() ", "runScript(int,long) A", "simulate(long,int) A", "save(int) X", "restore(int) XS");
+
+  private static String thrown(Method m) {
+    StringBuilder s = new StringBuilder();
+    for (Class<?> e : m.getExceptionTypes())
+      s.append(e == IllegalArgumentException.class ? 'A' : e == IllegalStateException.class ? 'S' : e == IndexOutOfBoundsException.class ? 'X' : '?');
+    return s.toString();
+  }
 
   private static String signature(Method m) {
     StringBuilder s = new StringBuilder(m.getName()).append('(');
@@ -29,11 +40,11 @@ public final class LanguageTest {
     return s.append(')').toString();
   }
 
-  private static void face() {
+  private static void face() throws Exception {
     Set<String> open = new TreeSet<>(), names = new TreeSet<>();
     for (Method m : ShallowBoxes.class.getDeclaredMethods()) {
       if (m.isSynthetic() || Modifier.isPrivate(m.getModifiers())) continue;
-      open.add(signature(m));
+      open.add(signature(m) + " " + thrown(m));
       names.add(m.getName());
       rule(1, Modifier.isPublic(m.getModifiers()) && !Modifier.isStatic(m.getModifiers()) && m.getReturnType() == int.class, signature(m));
     }
@@ -41,8 +52,12 @@ public final class LanguageTest {
     for (Field f : ShallowBoxes.class.getDeclaredFields())
       rule(1, Modifier.isPrivate(f.getModifiers()) || f.getName().equals("NONE"), "field " + f.getName());
     rule(1, ShallowBoxes.class.getDeclaredConstructors().length == 1 && Modifier.isFinal(ShallowBoxes.class.getModifiers()), "the class or its constructors");
+    rule(1, ShallowBoxes.class.getField("NONE").getInt(null) == -1, "NONE");
     inside(ShallowBoxes.class, names);
-    for (Class<?> c : ShallowBoxes.class.getDeclaredClasses()) inside(c, names);
+    for (Class<?> c : ShallowBoxes.class.getDeclaredClasses()) {
+      rule(1, Modifier.isStatic(c.getModifiers()) && !Modifier.isPublic(c.getModifiers()) && !Modifier.isProtected(c.getModifiers()), c.getName());
+      inside(c, names);
+    }
     rule(11, ShallowBoxes.class.getDeclaredClasses().length <= 11, "classes");
   }
 
@@ -81,9 +96,48 @@ public final class LanguageTest {
     }
   }
 
+  // By the name of a method or constructor, the names that stand before a bracket in its body.
+  private static Map<String, Set<String>> calls(String bare) {
+    Map<String, Set<String>> calls = new TreeMap<>();
+    String name = null;
+    for (String l : bare.split("\n", -1)) {
+      Matcher head = Pattern.compile("(?:    |        )(?:[\\w\\[\\]]+ )*(\\w+)\\([^)]*\\).*").matcher(l);
+      if (head.matches() && !l.endsWith(";")) {
+        name = head.group(1);
+        calls.putIfAbsent(name, new TreeSet<>());
+      } else if (name != null) {
+        Matcher m = Pattern.compile("(\\w+)\\(").matcher(l);
+        while (m.find()) calls.get(name).add(m.group(1));
+      }
+    }
+    for (Set<String> names : calls.values()) names.retainAll(calls.keySet());
+    return calls;
+  }
+
+  private static void chain(Map<String, Set<String>> calls, String name, List<String> open) {
+    rule(8, !open.contains(name), "a recursion: " + open + " " + name);
+    if (open.contains(name)) return;
+    open.add(name);
+    rule(11, open.size() <= 8, "calls that go too deep: " + open);
+    deepest = Math.max(deepest, open.size());
+    for (String next : calls.get(name)) chain(calls, next, open);
+    open.remove(open.size() - 1);
+  }
+
+  private static int deepest = 0;
+
+  private static void chains(String source) {
+    Map<String, Set<String>> calls = calls(source.replaceAll("(?s)/\\*.*?\\*/", "").replaceAll("//[^\n]*", ""));
+    for (String call : FACE) rule(1, calls.containsKey(call.replaceAll("\\(.*", "")), "no method is found for " + call);
+    for (String name : calls.keySet()) chain(calls, name, new ArrayList<>());
+    rule(11, deepest > 2, "no calls are found in the text");
+  }
+
   public static void main(String[] args) throws Exception {
     face();
-    text(Files.readString(Path.of(System.getProperty("project", "."), "src/main/java/ShallowBoxes.java")));
+    String source = Files.readString(Path.of(System.getProperty("project", "."), "src/main/java/ShallowBoxes.java"));
+    text(source);
+    chains(source);
     System.out.println(wrong == 0 ? "language: no rule is broken" : wrong + " rules are broken");
     if (wrong != 0) System.exit(1);
   }
