@@ -84,7 +84,7 @@ public final class ReadmeTest {
       if (Modifier.isPublic(m.getModifiers()) && !page.contains("`" + m.getName() + "`")) fault("it does not name the call " + m.getName());
     for (String file : project.resolve("src/test/java").toFile().list())
       if (!page.contains("`" + file.replace(".java", "") + "`")) fault("it does not name the test " + file);
-    Matcher m = Pattern.compile("`((?:src|\\.\\./shared)/[\\w./]*)`").matcher(page);
+    Matcher m = Pattern.compile("`(src/[\\w./]*)`").matcher(page);
     while (m.find()) if (!Files.exists(project.resolve(m.group(1)))) fault("there is no " + m.group(1));
   }
 
